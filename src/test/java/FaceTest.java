@@ -1,13 +1,50 @@
+import java.lang.reflect.Constructor;
+import java.lang.reflect.Field;
+import java.lang.reflect.Method;
+import java.lang.reflect.Modifier;
+import java.util.Set;
+import java.util.TreeSet;
+
 /** Answers, edges and exceptions of every method, promise by promise. */
 public final class FaceTest {
-    private static final Class<IndexOutOfBoundsException> INDEX = IndexOutOfBoundsException.class;
-    private static final Class<IllegalStateException> STATE = IllegalStateException.class;
-    private static final Class<IllegalArgumentException> ARGUMENT = IllegalArgumentException.class;
-    private static final int LOW = Integer.MIN_VALUE;
-    private static final int HIGH = Integer.MAX_VALUE;
+    private static final Class<IndexOutOfBoundsException> INDEX = Check.INDEX;
+    private static final Class<IllegalStateException> STATE = Check.STATE;
+    private static final Class<IllegalArgumentException> ARGUMENT = Check.ARGUMENT;
+    private static final int LOW = Check.LOW;
+    private static final int HIGH = Check.HIGH;
     private static final int[] NO_REGISTERS = {-1, 16, LOW, HIGH};
 
+    private static final String[] FACE = {
+        "public static final int NONE = -1;",
+        "public TrainYard();",
+        "public int length(int n) throws IllegalArgumentException;",
+        "public int make(int register, int references, int numbers) throws IndexOutOfBoundsException, IllegalArgumentException;",
+        "public int copy(int to, int from) throws IndexOutOfBoundsException;",
+        "public int drop(int register) throws IndexOutOfBoundsException;",
+        "public int set(int register, int i, int of)"
+                + " throws IndexOutOfBoundsException, IllegalStateException, IllegalArgumentException;",
+        "public int get(int to, int register, int i)"
+                + " throws IndexOutOfBoundsException, IllegalStateException, IllegalArgumentException;",
+        "public int put(int register, int i, int v)"
+                + " throws IndexOutOfBoundsException, IllegalStateException, IllegalArgumentException;",
+        "public int number(int register, int i)"
+                + " throws IndexOutOfBoundsException, IllegalStateException, IllegalArgumentException;",
+        "public int step();",
+        "public int collect(int n) throws IllegalArgumentException;",
+        "public int thing(int register, int what) throws IndexOutOfBoundsException, IllegalStateException;",
+        "public int label(int register, int i)"
+                + " throws IndexOutOfBoundsException, IllegalStateException, IllegalArgumentException;",
+        "public int train(int i, int what) throws IndexOutOfBoundsException;",
+        "public int car(int i, int k) throws IndexOutOfBoundsException;",
+        "public int about(int car, int what) throws IndexOutOfBoundsException;",
+        "public int remembered(int car, int k) throws IndexOutOfBoundsException;",
+        "public int word(int place) throws IndexOutOfBoundsException;",
+        "public int reached();",
+        "public int told(int what) throws IndexOutOfBoundsException;",
+    };
+
     public static void main(String[] args) {
+        face();
         newObject();
         length();
         make();
@@ -28,16 +65,41 @@ public final class FaceTest {
         Check.end();
     }
 
-    /** Register 0 holds thing 1 (2 references, 3 numbers), register 15 thing 2 (none); the others none. */
-    private static TrainYard two() {
-        TrainYard yard = new TrainYard();
-        yard.make(0, 2, 3);
-        yard.make(15, 0, 0);
-        return yard;
+    /** The class has the members that the document tells, and no other but private ones. */
+    private static void face() {
+        Set<String> due = new TreeSet<>();
+        for (String member : FACE) {
+            Check.sentence("Promises 1 to 20 (The public face)", member);
+            due.add(member.replaceAll("int [a-z]+(?=[,)])", "int").replace(" = -1", "").replace(", ", ","));
+        }
+        Check.endOfSentences();
+        Set<String> found = new TreeSet<>();
+        for (Field field : TrainYard.class.getDeclaredFields()) {
+            addMember(found, field.getModifiers(), field.isSynthetic(), field.toGenericString());
+        }
+        for (Constructor<?> constructor : TrainYard.class.getDeclaredConstructors()) {
+            addMember(found, constructor.getModifiers(), constructor.isSynthetic(), constructor.toGenericString());
+        }
+        for (Method method : TrainYard.class.getDeclaredMethods()) {
+            addMember(found, method.getModifiers(), method.isSynthetic(), method.toGenericString());
+        }
+        Check.equal("the face", found.toString(), due.toString());
+        Check.isTrue("the class is public", Modifier.isPublic(TrainYard.class.getModifiers()));
+        Check.isTrue("the class is final", Modifier.isFinal(TrainYard.class.getModifiers()));
+    }
+
+    private static void addMember(Set<String> found, int modifiers, boolean synthetic, String text) {
+        if (!Modifier.isPrivate(modifiers) && !synthetic) {
+            found.add(text.replace("java.lang.", "").replace("TrainYard.", "").replace(", ", ",") + ";");
+        }
+    }
+
+    private static Run two() {
+        return Yards.two();
     }
 
     private static void newObject() {
-        TrainYard yard = new TrainYard();
+        Run yard = new Run();
         Check.equal("NONE", TrainYard.NONE, -1);
         for (int what = 0; what < 10; what++) {
             Check.equal("new: told " + what, yard.told(what), what == 1 ? 40 : 0);
@@ -52,7 +114,7 @@ public final class FaceTest {
     }
 
     private static void length() {
-        TrainYard yard = new TrainYard();
+        Run yard = new Run();
         Check.equal("length(1)", yard.length(1), 4);
         Check.equal("length(40)", yard.length(40), 1);
         for (int n : new int[] {0, 41, -1, LOW, HIGH}) {
@@ -63,7 +125,7 @@ public final class FaceTest {
     }
 
     private static void make() {
-        TrainYard yard = new TrainYard();
+        Run yard = new Run();
         Check.equal("make of the least", yard.make(0, 0, 0), 1);
         Check.equal("make of the most", yard.make(15, 12, 12), 2);
         Check.equal("references", yard.thing(15, 3), 12);
@@ -78,7 +140,7 @@ public final class FaceTest {
     }
 
     private static void makeRefuses() {
-        TrainYard yard = two();
+        Run yard = two();
         for (int register : NO_REGISTERS) {
             Check.refuses(yard, "make in " + register, INDEX, () -> yard.make(register, 0, 0));
             Check.refuses(yard, "make in " + register + " of 13", INDEX, () -> yard.make(register, 13, -1));
@@ -91,7 +153,7 @@ public final class FaceTest {
     }
 
     private static void copyAndDrop() {
-        TrainYard yard = two();
+        Run yard = two();
         Check.equal("copy", yard.copy(7, 0), 1);
         Check.equal("what it holds", yard.thing(7, 0), 1);
         Check.equal("copy to itself", yard.copy(7, 7), 1);
@@ -108,7 +170,7 @@ public final class FaceTest {
     }
 
     private static void setAndGetAndLabel() {
-        TrainYard yard = two();
+        Run yard = two();
         Check.equal("set", yard.set(0, 1, 15), 0);
         Check.equal("label", yard.label(0, 1), 2);
         Check.equal("label of the other", yard.label(0, 0), 0);
@@ -125,7 +187,7 @@ public final class FaceTest {
     }
 
     private static void setRefuses() {
-        TrainYard yard = two();
+        Run yard = two();
         for (int register : NO_REGISTERS) {
             Check.refuses(yard, "set in " + register, INDEX, () -> yard.set(register, 0, 0));
             Check.refuses(yard, "set to " + register, INDEX, () -> yard.set(0, 0, register));
@@ -141,7 +203,7 @@ public final class FaceTest {
     }
 
     private static void getAndLabelRefuse() {
-        TrainYard yard = two();
+        Run yard = two();
         for (int register : NO_REGISTERS) {
             Check.refuses(yard, "get to " + register, INDEX, () -> yard.get(register, 0, 0));
             Check.refuses(yard, "get to " + register + " from none", INDEX, () -> yard.get(register, 3, 0));
@@ -158,7 +220,7 @@ public final class FaceTest {
     }
 
     private static void putAndNumber() {
-        TrainYard yard = two();
+        Run yard = two();
         Check.equal("put", yard.put(0, 0, LOW), 0);
         Check.equal("put of the last", yard.put(0, 2, -1), 0);
         Check.equal("number", yard.number(0, 0), LOW);
@@ -180,12 +242,12 @@ public final class FaceTest {
     }
 
     private static void stepAndCollect() {
-        TrainYard yard = new TrainYard();
+        Run yard = new Run();
         Check.equal("step without a train", yard.step(), TrainYard.NONE);
         Check.equal("collect without a train", yard.collect(0), 0);
         Check.equal("collect(100) without a train", yard.collect(100), 0);
         Check.equal("no step was done", yard.told(3), 0);
-        TrainYard full = two();
+        Run full = two();
         for (int n : new int[] {-1, 101, LOW, HIGH}) {
             Check.refuses(full, "collect(" + n + ")", ARGUMENT, () -> full.collect(n));
         }
@@ -196,7 +258,7 @@ public final class FaceTest {
     }
 
     private static void thing() {
-        TrainYard yard = two();
+        Run yard = two();
         int[] first = {1, 0, 1, 2, 3};
         int[] second = {2, 7, 1, 0, 0};
         for (int what = 0; what < 5; what++) {
@@ -214,7 +276,7 @@ public final class FaceTest {
     }
 
     private static void trainAndCar() {
-        TrainYard yard = new TrainYard();
+        Run yard = new Run();
         Check.refuses(yard, "train without one", INDEX, () -> yard.train(0, 0));
         Check.refuses(yard, "car without a train", INDEX, () -> yard.car(0, 0));
         yard.length(2);
@@ -243,7 +305,7 @@ public final class FaceTest {
     }
 
     private static void about() {
-        TrainYard yard = two();
+        Run yard = two();
         int[] due = {1, 23, 2, 0, 2};
         for (int what = 0; what < 5; what++) {
             Check.equal("about car 0, " + what, yard.about(0, what), due[what]);
@@ -259,7 +321,7 @@ public final class FaceTest {
 
     /** Car 0: thing 1, and thing 2 with a reference to it; car 1: thing 3 with references to both and to itself. */
     private static void remembered() {
-        TrainYard yard = new TrainYard();
+        Run yard = new Run();
         yard.make(0, 12, 0);
         yard.make(1, 12, 0);
         yard.make(2, 12, 0);
@@ -291,7 +353,7 @@ public final class FaceTest {
     }
 
     private static void word() {
-        TrainYard yard = two();
+        Run yard = two();
         yard.set(0, 1, 15);
         yard.put(0, 2, 77);
         int[] due = {1, 2 + 16 * 3, -1, 7, 0, 0, 77, 2, 0, 0};
@@ -311,7 +373,7 @@ public final class FaceTest {
     }
 
     private static void reached() {
-        TrainYard yard = new TrainYard();
+        Run yard = new Run();
         Check.equal("reached at first", yard.reached(), 0);
         yard.make(0, 2, 0);
         yard.make(1, 2, 0);
@@ -336,7 +398,7 @@ public final class FaceTest {
     }
 
     private static void told() {
-        TrainYard yard = two();
+        Run yard = two();
         yard.drop(15);
         yard.step();
         yard.drop(0);

@@ -4,7 +4,7 @@ import java.util.List;
 
 /**
  * The document told a second time, with things that hold things: slow, built in another way than the program, and
- * with pictures of the same form as Picture's.
+ * with pictures of the same form as those of Picture.
  */
 final class Model {
     static final int NONE = -1;
@@ -339,7 +339,7 @@ final class Model {
         }
         text.append("registers");
         for (Thing thing : registers) {
-            text.append(' ').append(thing == null ? "0" : thing.label + "@" + thing.place);
+            text.append(' ').append(thing == null ? "none" : thing.label + "@ " + thing.place);
         }
         text.append('\n');
         List<Car> order = inOrder();
@@ -347,7 +347,7 @@ final class Model {
         for (Car car : cars) {
             addCar(car, order, all, text);
         }
-        return text.toString();
+        return text.append("length ").append(length).append('\n').toString();
     }
 
     private static void addCar(Car car, List<Car> order, List<Reference> all, StringBuilder text) {

@@ -1,9 +1,11 @@
 import java.util.Random;
 
-/** Promises 1 to 20: long mixed runs, with the whole yard compared to the Model behind every call. */
+/** Promises 1 to 20: long mixed runs, with every answer and, now and then, the whole yard compared to the Model. */
 public final class ModelTest {
     private static final int RUNS = 160;
-    private static final int CALLS = 512;
+    /** So many calls of each run are left for Picture, which makes the run again and asks more. */
+    private static final int LEFT = 100;
+    private static final int TURNS_A_PICTURE = 10;
     private static int nones = 0;
     private static int squeezes = 0;
     private static int wholes = 0;
@@ -26,14 +28,17 @@ public final class ModelTest {
 
     private static void oneRun(int run) {
         Random random = new Random(run);
-        TrainYard yard = new TrainYard();
+        Run yard = new Run();
         Model model = new Model();
         int most = 1 + random.nextInt(12);
         int makes = 10 + random.nextInt(60);
         int drops = random.nextInt(10);
         int steps = run % 3 == 0 ? 1 : random.nextInt(15);
-        for (int call = 0; call < CALLS; call++) {
-            String name = "run " + run + ", call " + call;
+        if (run % 4 == 0) {
+            crowd("run " + run + ", crowding", yard, model, random);
+        }
+        for (int turn = 1; yard.callsLeft() > LEFT; turn++) {
+            String name = "run " + run + ", turn " + turn;
             int dice = random.nextInt(makes + drops + steps + 60);
             if (dice < makes) {
                 make(name, yard, model, random, most);
@@ -48,7 +53,9 @@ public final class ModelTest {
             } else {
                 touch(name, yard, model, random);
             }
-            Check.equal(name + ": the yard", Picture.of(yard), model.picture());
+            if (turn % TURNS_A_PICTURE == 0 || yard.callsLeft() <= LEFT) {
+                Check.equal(name + ": the yard", Picture.of(yard), model.picture());
+            }
         }
         squeezes += model.squeezes;
         wholes += model.whole;
@@ -57,7 +64,22 @@ public final class ModelTest {
         newTrains += model.newTrainsInSteps;
     }
 
-    private static void make(String name, TrainYard yard, Model model, Random random, int most) {
+    /** Fills nearly all cars with rows of things, each of which refers to the one before, so that all are needed. */
+    private static void crowd(String name, Run yard, Model model, Random random) {
+        int rows = 1 + random.nextInt(14);
+        while (model.free() > 2 && yard.callsLeft() > 2 * LEFT) {
+            int register = random.nextInt(rows);
+            Check.equal(name + ": copy", yard.copy(15, register), label(model.registers[register]));
+            model.registers[15] = model.registers[register];
+            int references = 1 + random.nextInt(12);
+            int numbers = 5 + random.nextInt(8);
+            int label = model.make(register, references, numbers);
+            Check.equal(name + ": make", yard.make(register, references, numbers), label);
+            set(name, yard, model, register, random.nextInt(references), 15);
+        }
+    }
+
+    private static void make(String name, Run yard, Model model, Random random, int most) {
         int register = random.nextInt(16);
         int references = random.nextInt(most + 1);
         int numbers = random.nextInt(13);
@@ -66,23 +88,23 @@ public final class ModelTest {
         if (label == Model.NONE) {
             nones++;
         } else {
-            for (int i = 0; i < numbers; i++) {
+            for (int i = random.nextInt(5); i < numbers; i += 5) {
                 int v = random.nextInt();
                 model.registers[register].numbers[i] = v;
-                yard.put(register, i, v);
+                Check.equal(name + ": put", yard.put(register, i, v), 0);
             }
-            for (int i = 0; i < references && random.nextInt(3) != 0; i++) {
+            for (int i = 0; i < references && random.nextBoolean(); i++) {
                 set(name, yard, model, register, i, random.nextInt(16));
             }
         }
     }
 
-    private static void drop(String name, TrainYard yard, Model model, int register) {
+    private static void drop(String name, Run yard, Model model, int register) {
         Check.equal(name + ": drop", yard.drop(register), label(model.registers[register]));
         model.registers[register] = null;
     }
 
-    private static void stepOrCollect(String name, TrainYard yard, Model model, Random random) {
+    private static void stepOrCollect(String name, Run yard, Model model, Random random) {
         if (random.nextInt(4) != 0) {
             int due = model.canStep() ? model.step() : Model.NONE;
             Check.equal(name + ": step", yard.step(), due);
@@ -92,7 +114,7 @@ public final class ModelTest {
         }
     }
 
-    private static void touch(String name, TrainYard yard, Model model, Random random) {
+    private static void touch(String name, Run yard, Model model, Random random) {
         int to = random.nextInt(16);
         int from = random.nextInt(16);
         Model.Thing thing = model.registers[from];
@@ -111,7 +133,7 @@ public final class ModelTest {
         }
     }
 
-    private static void set(String name, TrainYard yard, Model model, int register, int i, int of) {
+    private static void set(String name, Run yard, Model model, int register, int i, int of) {
         Model.Thing thing = model.registers[register];
         Check.equal(name + ": set", yard.set(register, i, of), label(thing.references[i]));
         thing.references[i] = model.registers[of];

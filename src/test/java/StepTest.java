@@ -28,12 +28,12 @@ public final class StepTest {
         Check.end();
     }
 
-    private static void place(TrainYard yard, String what, int register, int due) {
+    private static void place(Run yard, String what, int register, int due) {
         Check.equal(what, yard.thing(register, 1), due);
     }
 
     private static void makeFillsTheLastCar() {
-        TrainYard yard = new TrainYard();
+        Run yard = new Run();
         yard.make(0, 12, 12);
         yard.make(1, 3, 1);
         place(yard, "what just fits", 1, 26);
@@ -48,7 +48,7 @@ public final class StepTest {
     }
 
     private static void makeKeepsToLength() {
-        TrainYard yard = new TrainYard();
+        Run yard = new Run();
         for (int k = 0; k < 5; k++) {
             yard.make(0, 12, 12);
         }
@@ -70,7 +70,7 @@ public final class StepTest {
     }
 
     private static void stepMovesByRegisters() {
-        TrainYard yard = new TrainYard();
+        Run yard = new Run();
         yard.make(5, 1, 0);
         yard.make(2, 0, 1);
         yard.make(9, 0, 0);
@@ -93,7 +93,7 @@ public final class StepTest {
 
     /** 1 is to 2 and 3, 2 to 4, 3 to 5, 4 to 1: by their distance from 1. */
     private static void stepMovesTheNearestFirst() {
-        TrainYard yard = new TrainYard();
+        Run yard = new Run();
         for (int k = 5; k >= 1; k--) {
             yard.make(k, 2, 0);
         }
@@ -115,7 +115,7 @@ public final class StepTest {
 
     /** Cars 0, 1, 2 in trains of their own; the last one has room for the first thing, not for the second. */
     private static void stepMovesIntoTheLastTrain() {
-        TrainYard yard = new TrainYard();
+        Run yard = new Run();
         yard.length(1);
         yard.make(0, 0, 4);
         yard.make(1, 0, 5);
@@ -131,7 +131,7 @@ public final class StepTest {
 
     /** The first train has two cars, and only the one that is emptied gives to the new train. */
     private static void stepMakesOneTrainOnly() {
-        TrainYard yard = new TrainYard();
+        Run yard = new Run();
         yard.make(0, 0, 12);
         yard.make(1, 0, 12);
         yard.make(2, 0, 12);
@@ -150,7 +150,7 @@ public final class StepTest {
 
     /** Car 0 (train 1): things 1, 2, 3; car 1 (train 2) refers to 2; car 2 (train 3) to 1, then to 2. */
     private static void stepMovesToWhatRefers() {
-        TrainYard yard = new TrainYard();
+        Run yard = new Run();
         yard.length(1);
         yard.make(0, 0, 0);
         yard.make(1, 0, 0);
@@ -177,7 +177,7 @@ public final class StepTest {
 
     /** Thing 3 in car 1 refers to thing 1 in car 0 of the one train. */
     private static void stepMovesWithinTheFirstTrain() {
-        TrainYard yard = new TrainYard();
+        Run yard = new Run();
         yard.make(0, 0, 0);
         yard.make(1, 12, 12);
         yard.make(2, 1, 12);
@@ -194,7 +194,7 @@ public final class StepTest {
     }
 
     private static void stepCouplesTheLeastFreeCar() {
-        TrainYard yard = new TrainYard();
+        Run yard = new Run();
         yard.length(2);
         yard.make(0, 2, 2);
         yard.make(1, 12, 12);
@@ -216,7 +216,7 @@ public final class StepTest {
 
     /** What a register holds and train 2 refers to goes to the last train, 3. */
     private static void registersComeFirst() {
-        TrainYard yard = new TrainYard();
+        Run yard = new Run();
         yard.length(1);
         yard.make(0, 0, 0);
         yard.make(1, 12, 12);
@@ -230,7 +230,7 @@ public final class StepTest {
 
     /** The reference from the first train has the lower place, that from train 2 comes before it all the same. */
     private static void otherTrainsComeBeforeTheFirst() {
-        TrainYard yard = new TrainYard();
+        Run yard = new Run();
         yard.length(2);
         yard.make(0, 0, 0);
         yard.make(1, 12, 12);
@@ -247,7 +247,7 @@ public final class StepTest {
     }
 
     private static void wholeTrainGoes() {
-        TrainYard yard = new TrainYard();
+        Run yard = new Run();
         yard.length(2);
         yard.make(0, 12, 12);
         yard.make(1, 12, 12);
@@ -266,7 +266,7 @@ public final class StepTest {
         Check.equal("trains", yard.told(0), 0);
         Check.equal("free cars", yard.told(1), 40);
         Check.equal("two trains went", yard.told(4), 2);
-        TrainYard other = new TrainYard();
+        Run other = new Run();
         other.make(0, 12, 12);
         other.make(1, 12, 12);
         other.set(0, 0, 1);
@@ -283,7 +283,7 @@ public final class StepTest {
 
     /** Train 2 is held by none, but what is in it keeps what it refers to. */
     private static void uselessThingsStillRefer() {
-        TrainYard yard = new TrainYard();
+        Run yard = new Run();
         yard.length(1);
         yard.make(0, 12, 12);
         yard.make(1, 12, 12);
@@ -296,7 +296,7 @@ public final class StepTest {
     }
 
     private static void ringOverTwoTrainsGoes() {
-        TrainYard yard = new TrainYard();
+        Run yard = new Run();
         yard.length(1);
         yard.make(0, 12, 12);
         yard.make(1, 12, 12);
@@ -311,8 +311,8 @@ public final class StepTest {
     }
 
     /** 39 trains of one car each, all full but for the first one and, if it shall have room, the last one. */
-    private static TrainYard fullYard(boolean roomAtTheEnd) {
-        TrainYard yard = new TrainYard();
+    private static Run fullYard(boolean roomAtTheEnd) {
+        Run yard = new Run();
         yard.length(1);
         yard.make(0, 0, 12);
         yard.make(1, 0, 12);
@@ -335,7 +335,7 @@ public final class StepTest {
 
     /** Things 1 and 2 leave car 0 for trains 2 and 3, which are full: one gets the free car, the other some room. */
     private static void noFreeCarLeft(boolean roomAtTheEnd) {
-        TrainYard yard = fullYard(roomAtTheEnd);
+        Run yard = fullYard(roomAtTheEnd);
         Check.equal("one is free", yard.told(1), 1);
         Check.equal("step", yard.step(), 0);
         Check.equal("car 39 is in train 2", yard.about(39, 0), 2);
@@ -348,7 +348,7 @@ public final class StepTest {
     }
 
     private static void makeStepsTillTwoAreFree() {
-        TrainYard yard = fullYard(true);
+        Run yard = fullYard(true);
         Check.equal("what fits needs no step", yard.make(3, 2, 12), 78);
         Check.equal("no steps", yard.told(3), 0);
         Check.equal("things", yard.told(2), 78);
@@ -364,7 +364,7 @@ public final class StepTest {
 
     /** The one thing that a register holds is moved to the end, behind which room is left. */
     private static void makeStepsTillTheLastHasRoom() {
-        TrainYard yard = new TrainYard();
+        Run yard = new Run();
         yard.length(1);
         yard.make(0, 0, 5);
         yard.make(1, 12, 11);
@@ -385,7 +385,7 @@ public final class StepTest {
 
     /** All words of 39 cars are needed: each step fills the free car and frees another one. */
     private static void makeGivesUp() {
-        TrainYard yard = new TrainYard();
+        Run yard = new Run();
         yard.length(1);
         for (int car = 0; car < 39; car++) {
             yard.make(1, 12, 12);
@@ -413,7 +413,7 @@ public final class StepTest {
     }
 
     private static void collectStopsWithTheTrains() {
-        TrainYard yard = new TrainYard();
+        Run yard = new Run();
         yard.length(1);
         for (int k = 0; k < 5; k++) {
             yard.make(0, 12, 12);
@@ -428,7 +428,7 @@ public final class StepTest {
 
     /** One train of three cars goes at the first of three steps; the yard is empty for the others. */
     private static void collectCountsTheCarsAtFirst() {
-        TrainYard yard = new TrainYard();
+        Run yard = new Run();
         yard.length(1);
         for (int k = 0; k < 3; k++) {
             yard.make(k, 12, 12);
@@ -441,7 +441,7 @@ public final class StepTest {
 
     /** Car 0 is freed and comes into a train again, behind car 1. */
     private static void orderIsNotByNumber() {
-        TrainYard yard = new TrainYard();
+        Run yard = new Run();
         yard.length(1);
         yard.make(0, 12, 12);
         yard.make(1, 12, 12);
